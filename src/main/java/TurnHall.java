@@ -167,7 +167,8 @@ public final class TurnHall {
         demand(n >= 1 && n <= MAX_GO);
         int done = 0;
         for (; done < n && floor.ready > 0; done++) {
-            doStep();
+            Worker w = nextWorker();
+            closeStep(w, perform(w));
         }
         boolean allEnded = floor.ended == floor.size;
         if (!allEnded && done == n) {
@@ -381,21 +382,20 @@ public final class TurnHall {
         return turn;
     }
 
-    /** One STEP; go() sees to it that a THREAD is READY, and a READY one always stands at a STEP. */
-    private void doStep() {
+    /** Whose STEP is next, which counts as done then; go() sees to it that a THREAD is READY. */
+    private Worker nextWorker() {
         if (turnLeft == 0) {
             beginTurn();
         }
-        Worker w = floor.workers[turn];
-        int call = w.calls - 1;
-        Program program = floor.programs[w.programs[call]];
-        int place = w.places[call];
         turnLeft--;
         lastThread = turn;
+        Worker w = floor.workers[turn];
         w.steps++;
         floor.steps++;
-        w.places[call] = place + 1;
-        int fault = perform(w, program.operations[place], program.as[place], program.bs[place]);
+        return w;
+    }
+
+    private void closeStep(Worker w, int fault) {
         if (fault != FINE) {
             floor.raise(w, fault);
         }
@@ -408,8 +408,15 @@ public final class TurnHall {
         floor.settle();
     }
 
-    /** Does the STEP for a THREAD that stands behind it already; answers its FAULT. */
-    private int perform(Worker w, int op, long a, long b) {
+    /** Does the STEP where a READY THREAD stands, which goes on behind it; answers the FAULT. */
+    private int perform(Worker w) {
+        int call = w.calls - 1;
+        int place = w.places[call];
+        w.places[call] = place + 1;
+        Program program = floor.programs[w.programs[call]];
+        int op = program.operations[place];
+        long a = program.as[place];
+        long b = program.bs[place];
         if (!areNamesThere(op, a, b)) {
             return BAD_NUMBER;
         }
@@ -420,8 +427,10 @@ public final class TurnHall {
                 return registerStep(w, op, (int) a, b);
             case JUMP: case JUMP_IF: case CALL: case RETURN: case HANDLE: case RAISE: case YIELD:
                 return flowStep(w, op, a, b);
-            case ENTER: case EXIT: case TRY_ENTER: case AWAIT: case NOTICE: case NOTICE_ALL:
+            case ENTER: case EXIT: case TRY_ENTER: case NOTICE: case NOTICE_ALL:
                 return monitorStep(w, op, monitors[(int) a], (int) b);
+            case AWAIT:
+                return await(monitors[(int) a], w, w.registers[(int) b]);
             case SLEEP: case START: case JOIN: case PARK: case UNPARK:
                 return threadStep(w, op, (int) a, (int) b);
             case INTERRUPT:
@@ -523,19 +532,15 @@ public final class TurnHall {
     }
 
     private int monitorStep(Worker w, int op, Monitor monitor, int b) {
-        switch (op) {
-            case ENTER:
-                if (!monitor.tryEnter(w)) {
-                    monitor.askFor(w, 1);
-                }
-                return FINE;
-            case TRY_ENTER:
-                w.registers[b] = monitor.tryEnter(w) ? 1 : 0;
-                return FINE;
-            case AWAIT:
-                return await(monitor, w, w.registers[b]);
-            default:
-                break;
+        if (op == ENTER) {
+            if (!monitor.tryEnter(w)) {
+                monitor.askFor(w, 1);
+            }
+            return FINE;
+        }
+        if (op == TRY_ENTER) {
+            w.registers[b] = monitor.tryEnter(w) ? 1 : 0;
+            return FINE;
         }
         if (monitor.owner != w.number) {
             return NOT_ITS_OWN;

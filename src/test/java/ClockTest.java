@@ -6,6 +6,7 @@ public final class ClockTest {
         ranges();
         sleeping();
         earliestFirst();
+        ofTheSameTime();
         whatIsNotDueByItself();
         endlessAndFar();
         CHECK.finish();
@@ -61,6 +62,30 @@ public final class ClockTest {
         x.interrupt(5);
         x.go(100);
         CHECK.same("order", Halls.notes(x), "1:3 4:3 3:5 0:7 2:7");
+    }
+
+    /** Of the same time those that began to wait first, whatever their numbers are and whenever they came. */
+    private static void ofTheSameTime() {
+        TurnHall x = new TurnHall(100);
+        Halls.program(x, 0, 14, 0, 0, 17, 0, 0, 12, 0, 0, 15, 0, 0);
+        Halls.program(x, 1, 14, 0, 0, 34, 1, 0, 15, 0, 0);
+        x.begin(0, 6);
+        x.begin(0, 6);
+        x.begin(0, 9);
+        x.begin(0, 6);
+        x.schedule(2, 2);
+        x.go(2);
+        x.tick(3);
+        x.schedule(3, 2);
+        x.schedule(0, 2);
+        x.schedule(1, 2);
+        x.go(6);
+        x.begin(1, 0);
+        x.go(100);
+        CHECK.same("all at 9", x.tick(6), 4);
+        x.interrupt(4);
+        x.go(100);
+        CHECK.same("order", Halls.notes(x), "2:9 3:6 0:6 1:6");
     }
 
     private static void whatIsNotDueByItself() {

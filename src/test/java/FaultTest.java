@@ -118,6 +118,15 @@ public final class FaultTest {
         CHECK.same("no PROGRAM", Halls.faultOf(0, 8, 16, 0), 3);
         CHECK.same("no PROGRAM", Halls.faultOf(0, 8, -1, 0), 3);
         CHECK.same("no PROGRAM", Halls.faultOf(0, 8, 1L << 32, 0), 3);
+        TurnHall twice = new TurnHall(1);
+        Halls.program(twice, 0, 8, 1, 0, 8, 1, 0);
+        Halls.program(twice, 1, 10, 0, 0, 12, 0, 0);
+        twice.begin(0, 6);
+        twice.go(4);
+        CHECK.same("each CALL begins at PLACE 0", twice.thread(0, 2), 0);
+        CHECK.same("and without HANDLER", twice.thread(0, 3), -1);
+        twice.go(9);
+        CHECK.same("twice", Halls.notes(twice), "0:6 0:6");
         TurnHall y = new TurnHall(1);
         Halls.program(y, 0, 7, 0, 0, 6, 3, 0, 8, 99, 0, 8, 0, 0);
         y.begin(0, 100);

@@ -6,6 +6,7 @@ public final class InterruptTest {
         ranges();
         readyAndEnded();
         waitingAtMonitor();
+        faultComesOnce();
         enteringAndLocking();
         sleepingAndJoining();
         taking();
@@ -68,6 +69,27 @@ public final class InterruptTest {
         CHECK.same("what it holds it keeps", y.monitor(0, 0), 0);
         CHECK.same("with its COUNT", y.monitor(0, 1), 2);
         CHECK.same("its MARK stays", y.thread(0, 4), 1);
+    }
+
+    /** One that was interrupted while it waited enters again: its FAULT came once. */
+    private static void faultComesOnce() {
+        TurnHall x = new TurnHall(100);
+        Halls.program(x, 0, 10, 3, 0, 14, 0, 0, 17, 0, 1, 15, 0, 0, 34, 1, 0, 24, 2, 0, 14, 0, 0, 12, 3, 0);
+        Halls.program(x, 1, 14, 0, 0, 34, 1, 0, 15, 0, 0);
+        x.begin(0, 0);
+        x.go(100);
+        x.interrupt(0);
+        x.go(100);
+        x.begin(1, 0);
+        x.go(100);
+        x.interrupt(0);
+        x.go(100);
+        CHECK.same("it has to wait", x.state(0), 1);
+        x.interrupt(1);
+        x.go(100);
+        CHECK.same("it has the MONITOR without FAULT", x.state(0), 9);
+        CHECK.same("FAULTS", x.count(6), 1);
+        CHECK.same("notes", Halls.notes(x), "0:2");
     }
 
     private static void enteringAndLocking() {

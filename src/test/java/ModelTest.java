@@ -10,7 +10,10 @@ public final class ModelTest {
     }
 
     private static final int RUNS = 6000;
-    private static final int[] WAITS = {14, 15, 16, 17, 17, 18, 19, 20, 22, 23, 25, 26, 27, 28, 29, 30, 31, 32, 32, 33, 34, 35};
+    /** The operations that are put most often: those by which THREADS have to do with one another. */
+    private static final int[] WAITS = {
+        14, 15, 16, 17, 17, 18, 19, 20, 22, 23, 25, 26, 27, 28, 29, 30, 31, 32, 32, 33, 34, 35,
+    };
 
     private final Check check;
     private final Random random;

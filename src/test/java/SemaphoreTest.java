@@ -6,6 +6,7 @@ public final class SemaphoreTest {
         ranges();
         takesAndGives();
         fromTheFrontOn();
+        lastStepIsOver();
         tries();
         great();
         CHECK.finish();
@@ -71,6 +72,18 @@ public final class SemaphoreTest {
         CHECK.same("all", x.supply(1, 9), 0);
         x.go(100);
         CHECK.same("notes", Halls.notes(x), "0:3 1:1 2:0 3:9 4:1 5:1");
+    }
+
+    private static void lastStepIsOver() {
+        TurnHall x = new TurnHall(100);
+        Halls.program(x, 0, 29, 1, 0);
+        Halls.program(x, 1, 22, 1, 2, 12, 0, 0);
+        x.begin(0, 1);
+        x.begin(1, 0);
+        x.go(100);
+        x.supply(1, 1);
+        CHECK.same("one that waited behind its last STEP has ENDED", x.state(0), 9);
+        CHECK.same("who joined it goes on", x.state(1), 0);
     }
 
     private static void tries() {
