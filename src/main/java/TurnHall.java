@@ -4,7 +4,9 @@
  */
 public final class TurnHall {
     private static final int NONE = -1;
-    private static final long NEVER = Long.MAX_VALUE;
+    private static final int MOST_INT = 2147483647;
+    private static final long MOST = 9223372036854775807L;
+    private static final long NEVER = MOST;
 
     private static final int PROGRAMS = 16;
     private static final int MAX_STEPS = 200;
@@ -281,7 +283,7 @@ public final class TurnHall {
     public int semaphore(int s, int what) throws IllegalArgumentException {
         demand(isWithin(s, EACH) && isWithin(what, 2));
         Semaphore semaphore = semaphores[s];
-        return what == 0 ? (int) Math.min(semaphore.has, Integer.MAX_VALUE) : semaphore.line.size;
+        return what == 0 ? (int) Math.min(semaphore.has, MOST_INT) : semaphore.line.size;
     }
 
     public int barrier(int y, int what) throws IllegalArgumentException {
@@ -327,7 +329,7 @@ public final class TurnHall {
             case 4: return notes.ever;
             case 5: return schedule.size;
             case 6: return floor.faults;
-            default: return (int) (floor.clock & Integer.MAX_VALUE);
+            default: return (int) (floor.clock & MOST_INT);
         }
     }
 
@@ -1227,7 +1229,7 @@ public final class TurnHall {
         }
 
         void give(long number) {
-            has = number > Long.MAX_VALUE - has ? Long.MAX_VALUE : has + number;
+            has = number > MOST - has ? MOST : has + number;
             serve();
         }
 
