@@ -5,11 +5,17 @@ final class Check {
     }
 
     private final String name;
+    private String sentence = "";
     private int wrong = 0;
     private int seen = 0;
 
     Check(String name) {
         this.name = name;
+    }
+
+    /** The document's words by which the answers behind this call are due; what is wrong is told with them. */
+    void sentence(String words) {
+        sentence = " by \"" + words + "\"";
     }
 
     void same(String what, long got, long due) {
@@ -47,7 +53,7 @@ final class Check {
 
     private void tell(String what, String got, String due) {
         wrong++;
-        System.out.println(name + ": " + what + " answered " + got + ", due is " + due);
+        System.out.println(name + ": " + what + " answered " + got + ", due is " + due + sentence);
     }
 
     void finish() {
