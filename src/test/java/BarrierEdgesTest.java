@@ -97,7 +97,8 @@ public final class BarrierEdgesTest {
     }
 
     private static void lastOfItsParties() {
-        CHECK.sentence("the last of its PARTIES: all that are there go on, in order, it too");
+        CHECK.sentence("the last of its PARTIES: all that are there go on, in order, it too, R[0] of each being how "
+            + "many came behind it; else it waits (state 7)");
         TurnHall x = hall(3);
         come(x, 0, 1);
         CHECK.same("one is missing", Halls.barrier(x, 0), "3 2 0 0");
@@ -177,6 +178,17 @@ public final class BarrierEdgesTest {
     }
 
     private static void breaksAndIsWhole() {
+        CHECK.sentence("A BARRIER breaks: those that wait there have FAULT 4, in order");
+        TurnHall all = Halls.with(99, 32, 0, 1);
+        Halls.program(all, 1, 33, 0, 0);
+        all.parties(0, 64);
+        for (int t = 0; t < 63; t++) {
+            all.begin(0, 0);
+        }
+        all.go(99);
+        Halls.run(all, 1);
+        CHECK.same("63 of them", all.count(6), 63);
+        CHECK.same("the first and the last", all.thread(0, 6) * 10 + all.thread(62, 6), 44);
         CHECK.sentence("33: BARRIER a breaks (those that wait there have FAULT 4), and is whole again");
         TurnHall x = hall(3);
         come(x, 0, 5);

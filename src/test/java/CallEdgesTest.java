@@ -264,6 +264,7 @@ public final class CallEdgesTest {
             CHECK.same("the least", x.set(i, Long.MAX_VALUE), Long.MIN_VALUE);
             CHECK.same("the most", x.cell(i), Long.MAX_VALUE);
         }
+        CHECK.sentence("CELL i. BAD");
         for (int no : new int[] {LEAST, -1, 32, MOST}) {
             CHECK.bad("set(" + no + ")", () -> x.set(no, 1));
             CHECK.bad("cell(" + no + ")", () -> x.cell(no));
@@ -296,6 +297,15 @@ public final class CallEdgesTest {
         x.go(1);
         CHECK.same("ENDED", Halls.thread(x, 0), "0 -1 -1 -1 0 0 0 1");
         CHECK.same("state", x.state(0), 9);
+        CHECK.sentence("4: its MARK (0, 1), 5: its PERMIT, 6: the FAULT that it ENDED by (0), 7: STEPS that it did. "
+            + "BAD");
+        TurnHall y = Halls.with(9, 35, 0, 0, 23, 0, 0, 11, 1000000, 0);
+        y.begin(0, 0);
+        y.go(2);
+        CHECK.same("MARK and PERMIT", Halls.thread(y, 0), "1 0 2 -1 1 1 0 2");
+        y.go(1);
+        CHECK.same("they stay, and the FAULT", Halls.thread(y, 0), "0 -1 -1 -1 1 1 1000000 3");
+        CHECK.same("state", y.state(0), 10);
     }
 
     private static void notes() {

@@ -143,8 +143,8 @@ public final class LockEdgesTest {
     }
 
     private static void fromTheFrontOn() {
-        CHECK.sentence("those that wait have it from the front on: a writer alone if nobody reads or writes, readers "
-            + "as many as stand there if nobody writes");
+        CHECK.sentence("When a LOCK is free for them, those that wait have it from the front on: a writer alone if "
+            + "nobody reads or writes, readers as many as stand there if nobody writes");
         TurnHall x = behindAWriter(1, 1, 1, 2, 1, 2, 2);
         CHECK.same("three readers, then a writer stands there", Halls.lock(x, 0), "-1 0 3 4 4");
         CHECK.same("states", Halls.states(x), "9 8 8 8 5 5 5 5");

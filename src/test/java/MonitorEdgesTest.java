@@ -254,6 +254,18 @@ public final class MonitorEdgesTest {
         z.interrupt(1);
         z.go(9);
         CHECK.same("and no FAULT", Halls.faults(z), "0 0");
+        TurnHall w = Halls.with(9, 10, 3, 0, 14, 0, 0, 17, 0, 1, 15, 0, 0, 20, 1, 0, 14, 0, 0, 12, 3, 0);
+        putHolder(w);
+        w.begin(0, 0);
+        w.go(9);
+        w.interrupt(0);
+        w.go(9);
+        Halls.run(w, 9);
+        w.tick(1);
+        w.go(9);
+        CHECK.same("it enters again and has to wait", Halls.states(w), "1 8");
+        w.interrupt(1);
+        CHECK.same("it has the MONITOR and no second FAULT", w.go(9) * 10 + w.count(6), 11);
     }
 
     private static void notice() {
@@ -322,7 +334,8 @@ public final class MonitorEdgesTest {
     }
 
     private static void ringsOfMonitors() {
-        CHECK.sentence("and so on till t comes again: how many they are; 0 if it does not");
+        CHECK.sentence("THREAD t waits in state 1 for a MONITOR's owner, or in 4 for a THREAD, that one again, and "
+            + "so on till t comes again: how many they are; 0 if it does not");
         TurnHall x = new TurnHall(1);
         for (int t = 0; t < 8; t++) {
             Halls.program(x, t, 14, t, 0, 14, (t + 1) % 8, 0);

@@ -161,6 +161,14 @@ public final class SemaphoreEdgesTest {
         CHECK.same("63 wait", Halls.semaphore(y, 0), "0 63");
         run(y, 1, 63);
         CHECK.same("all have theirs", Halls.semaphore(y, 0), "0 0");
+        TurnHall z = hall();
+        for (int t = 0; t < 64; t++) {
+            z.begin(0, 1);
+        }
+        z.go(99);
+        CHECK.same("64 wait", Halls.semaphore(z, 0), "0 64");
+        CHECK.same("by supply, too", z.supply(0, 65), 1);
+        CHECK.same("all have theirs", Halls.semaphore(z, 0), "1 0");
     }
 
     private static void whenOneIsInterrupted() {
@@ -239,7 +247,13 @@ public final class SemaphoreEdgesTest {
         CHECK.same("nothing is changed", x.supply(7, 0), 1000000);
         run(x, 0, 3);
         CHECK.same("what it has when one has had its three", x.supply(0, 5), 2);
-        x.set(0, 0);
+        Halls.program(x, 3, 29, 1, 0);
+        Halls.program(x, 4, 1, 1, 1, 22, 1, 2, 0, 0, 0);
+        run(x, 3, 1);
+        run(x, 4, 0);
+        CHECK.same("one waits by its last STEP, another one for its end", Halls.states(x), "9 6 4");
+        CHECK.same("what it has when it has had its one", x.supply(1, 1), 0);
+        CHECK.same("it has ENDED at once, the other one goes on", Halls.states(x), "9 9 0");
         for (int i = 0; i < 300; i++) {
             x.supply(6, 1000000);
         }

@@ -8,7 +8,9 @@ public final class StepEdgesTest {
 
     public static void main(String[] args) {
         registersFirstOfAll();
+        everyStepWithRegisters();
         everyRegister();
+        numbersThatNameNothing();
         thingsThatAreThere();
         thingsThatAreNot();
         nothingAndLoad();
@@ -57,6 +59,19 @@ public final class StepEdgesTest {
         }
     }
 
+    private static void everyStepWithRegisters() {
+        int[] byA = {1, 2, 3, 4, 7, 12, 20, 21, 22, 23, 24, 34, 35};
+        int[] byB = {2, 6, 16, 17, 22, 29, 30, 31, 32};
+        for (long no : new long[] {-1, 4, 1L << 32, LEAST, MOST}) {
+            for (int op : byA) {
+                CHECK.same("R[" + no + "] of STEP " + op + ", by a", marked(0, op, no, 0), "3 1");
+            }
+            for (int op : byB) {
+                CHECK.same("R[" + no + "] of STEP " + op + ", by b", marked(0, op, 0, no), "3 1");
+            }
+        }
+    }
+
     private static void everyRegister() {
         for (int r = 0; r < 4; r++) {
             TurnHall x = Halls.with(9, 1, r, 5 + r, 12, r, 0, 2, r, r, 4, r, r, 31, 0, r);
@@ -69,10 +84,35 @@ public final class StepEdgesTest {
         }
     }
 
+    /** All that can be told behind one STEP of a THREAD that owns MONITOR 0 and reads LOCK 0 and writes LOCK 1. */
+    private static String behind(int op, long a, long b) {
+        TurnHall x = Halls.with(99, 14, 0, 0, 25, 0, 0, 26, 1, 0, op, a, b, 0, 0, 0, 0, 0, 0);
+        x.begin(0, 0);
+        x.go(4);
+        return Halls.all(x);
+    }
+
+    /** Only what a STEP names is looked at: where it tells of no a or no b, that may be any number. */
+    private static void numbersThatNameNothing() {
+        for (long any : new long[] {-1, 4, 8, 16, 32, 1L << 32, LEAST, MOST}) {
+            for (int op : new int[] {5, 7, 8, 10, 11, 12, 14, 15, 18, 19, 20, 23, 24, 25, 26, 27, 33, 34, 35}) {
+                CHECK.same("b of STEP " + op + " is " + any, behind(op, 1, any), behind(op, 1, 0));
+                CHECK.same("b of STEP " + op + " is " + any, behind(op, 0, any), behind(op, 0, 0));
+            }
+            CHECK.same("b of STEP 28 is " + any, behind(28, 1, any), behind(28, 1, 0));
+            for (int op : new int[] {0, 9, 13}) {
+                CHECK.same("a of STEP " + op + " is " + any, behind(op, any, 0), behind(op, 0, 0));
+                CHECK.same("b of STEP " + op + " is " + any, behind(op, 0, any), behind(op, 0, 0));
+            }
+            CHECK.same("b of STEP 1 is any number", Halls.faultOf(0, 1, 0, any), 0);
+        }
+    }
+
     private static void thingsThatAreThere() {
         CHECK.sentence("Where what a STEP names is none there (m, l, s, y: 0 to 7; CELLS): FAULT 3");
         for (long i : new long[] {0, 7}) {
             CHECK.same("MONITOR " + i, Halls.faultOf(0, 14, i, 0, 16, i, 1, 18, i, 0, 19, i, 0, 15, i, 0), 0);
+            CHECK.same("waits at MONITOR " + i, Halls.faultOf(0, 14, i, 0, 17, i, 0), 0);
             CHECK.same("LOCK " + i, Halls.faultOf(0, 25, i, 0, 27, i, 0, 26, i, 0, 28, i, 0), 0);
             CHECK.same("SEMAPHORE " + i, Halls.faultOf(0, 29, i, 0, 30, i, 0, 31, i, 0), 0);
             CHECK.same("BARRIER " + i, Halls.faultOf(0, 32, i, 0, 33, i, 0), 0);
@@ -90,6 +130,7 @@ public final class StepEdgesTest {
                 }
             }
         }
+        CHECK.sentence("3: R[a] becomes CELL b. 4: CELL b becomes R[a]");
         for (long no : new long[] {-1, 32, 1L << 32, LEAST, MOST}) {
             CHECK.same("fetch from CELL " + no, Halls.faultOf(0, 3, 0, no), 3);
             CHECK.same("store in CELL " + no, Halls.faultOf(0, 4, 0, no), 3);
@@ -203,6 +244,13 @@ public final class StepEdgesTest {
         y.begin(0, 0);
         y.go(2);
         CHECK.same("itself, at PLACE 0", Halls.thread(y, 0), "2 0 0 -1 0 0 0 2");
+        TurnHall z = Halls.with(9, 8, 1, 0, 8, 1, 0);
+        Halls.program(z, 1, 10, 1, 0, 12, 0, 0);
+        z.begin(0, 7);
+        z.go(4);
+        CHECK.same("a second time at PLACE 0, without HANDLER, too", Halls.thread(z, 0), "2 1 0 -1 0 0 0 4");
+        CHECK.same("both to their end", z.go(2), 1);
+        CHECK.same("notes", Halls.notes(z), "0:7 0:7");
     }
 
     private static void twentyCalls() {

@@ -164,6 +164,17 @@ public final class ThreadEdgesTest {
         y.go(9);
         CHECK.same("ENDED by a FAULT", y.interrupt(0), 10);
         CHECK.same("who joined it has none", Halls.states(y), "10 9");
+        for (int way = 0; way < 2; way++) {
+            TurnHall z = Halls.with(1, 34, 1, 0);
+            Halls.program(z, 1, 22, 0, 1);
+            for (int t = 0; t < 64; t++) {
+                z.begin(t == (way == 0 ? 63 : 0) ? 0 : 1, way == 0 ? t + 1 : t - 1);
+            }
+            z.go(99);
+            CHECK.same("a chain of all 64", z.count(1) + z.count(2), 0);
+            z.interrupt(way == 0 ? 63 : 0);
+            CHECK.same("all have ENDED", z.count(2), 64);
+        }
     }
 
     private static void interruptsNoneSuch() {

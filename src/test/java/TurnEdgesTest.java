@@ -6,6 +6,7 @@ public final class TurnEdgesTest {
         atMost256();
         usedAround();
         passedOverInEachState();
+        allOf256PassedOver();
         lookedAtWhenItIsNext();
         passedOverBefore1Or3();
         atFirstFrom0On();
@@ -106,6 +107,22 @@ public final class TurnEdgesTest {
         x.interrupt(3);
         x.go(1);
         CHECK.same("those that were passed over do not come again", x.count(5), 0);
+    }
+
+    private static void allOf256PassedOver() {
+        TurnHall x = Halls.with(9, 34, 0, 0);
+        Halls.program(x, 1, 5, 0, 0);
+        Halls.run(x, 0);
+        x.begin(1, 0);
+        x.schedule(1, 1);
+        for (int i = 1; i < 256; i++) {
+            x.schedule(0, 1);
+        }
+        x.go(1);
+        x.schedule(0, 1);
+        CHECK.same("256 of one that is parked", x.count(5), 256);
+        x.go(1);
+        CHECK.same("all are passed over for one STEP", x.count(5), 0);
     }
 
     private static void lookedAtWhenItIsNext() {
@@ -314,8 +331,9 @@ public final class TurnEdgesTest {
     }
 
     private static void timeFromWhenItBegan() {
+        CHECK.sentence("THE CLOCK is 0 at first. At a tick what is due (its time at or below THE CLOCK) is over");
         TurnHall x = Halls.with(9, 20, 0, 0);
-        CHECK.same("THE CLOCK is 0 at first", x.count(7), 0);
+        CHECK.same("0 at first", x.count(7), 0);
         x.tick(1000000);
         x.begin(0, 5);
         x.go(9);
