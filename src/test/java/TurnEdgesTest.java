@@ -123,6 +123,7 @@ public final class TurnEdgesTest {
         CHECK.same("256 of one that is parked", x.count(5), 256);
         x.go(1);
         CHECK.same("all are passed over for one STEP", x.count(5), 0);
+        CHECK.same("of the one that is READY", x.thread(0, 7) * 10 + x.thread(1, 7), 12);
     }
 
     private static void lookedAtWhenItIsNext() {
