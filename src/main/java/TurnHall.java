@@ -412,6 +412,9 @@ public final class TurnHall {
 
     /** Does the STEP where a READY THREAD stands, which goes on behind it; answers the FAULT. */
     private int perform(Worker w) {
+        if (!floor.isAtStep(w)) {
+            return FINE;
+        }
         int call = w.calls - 1;
         int place = w.places[call];
         w.places[call] = place + 1;
@@ -981,9 +984,15 @@ public final class TurnHall {
             moved = true;
         }
 
+        /** Whether its innermost CALL has a next STEP; a READY THREAD's always has one between STEPS. */
+        boolean isAtStep(Worker w) {
+            int call = w.calls - 1;
+            return call >= 0 && w.places[call] < programs[w.programs[call]].length;
+        }
+
         /** Leaves the CALLS whose last STEP is done. */
         void returnCalls(Worker w) {
-            while (w.calls > 0 && w.places[w.calls - 1] >= programs[w.programs[w.calls - 1]].length) {
+            while (w.calls > 0 && !isAtStep(w)) {
                 w.calls--;
             }
             if (w.calls == 0) {

@@ -78,8 +78,8 @@ public final class LockTest {
 
     private static void again() {
         TurnHall x = new TurnHall(100);
-        Halls.program(x, 0, 26, 7, 0, 26, 7, 0, 25, 7, 0, 25, 7, 0, 34, 1, 0, 28, 7, 0, 34, 2, 0, 24, 0, 0, 34, 2, 0, 28,
-            7, 0, 34, 1, 0);
+        Halls.program(x, 0, 26, 7, 0, 26, 7, 0, 25, 7, 0, 25, 7, 0, 34, 1, 0, 28, 7, 0, 34, 2, 0, 24, 0, 0, 34, 2, 0,
+            28, 7, 0, 34, 1, 0);
         Halls.program(x, 1, 25, 7, 0);
         Halls.program(x, 2, 26, 7, 0);
         begin(x, 0, 1, 2, 1);

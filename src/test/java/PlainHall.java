@@ -780,8 +780,8 @@ final class PlainHall {
     int count(int what) {
         need(what >= 0 && what <= 7);
         long[] all = {threads.size(), threads.stream().filter(t -> t.state == 0).count(),
-            threads.stream().filter(T::ended).count(), threads.stream().mapToInt(t -> t.steps).sum(), noted, plan.size(),
-            faults, clock % 2147483648L};
+            threads.stream().filter(T::ended).count(), threads.stream().mapToInt(t -> t.steps).sum(), noted,
+            plan.size(), faults, clock % 2147483648L};
         return (int) all[what];
     }
 }
